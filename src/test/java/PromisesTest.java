@@ -225,6 +225,7 @@ public final class PromisesTest {
         x.man(MAN, 9, 0);
         x.man(MAN, 9, 9);
         x.bind(1, 3);
+        x.wax(1, true);
         x.log(1);
         x.stroke();
         x.image();
@@ -241,6 +242,7 @@ public final class PromisesTest {
         due("man", 0, x.man(MAN, 1, 0));
         due("next man", 1, x.man(MAN, 1, 0));
         due("no knots of a gone one", 0, x.about(1, 4));
+        due("no wax of a gone one", 0, x.about(1, 3));
         due("not lost", 0, x.about(0, 5));
     }
 
@@ -582,6 +584,7 @@ public final class PromisesTest {
         over.stroke();
         due("over", STATE, over.waxing(0, 0));
         due("over, what", OUTSIDE, over.waxing(0, 2));
+        waxing(crewOn("019:s9r", MAN, 1, 0, MAN, 1, 0, MAN, 1, 0, MAN, 1, 0, MAN, 1, 0), 0, 5, 0);
         // Wax only to those aboard: one is lost, the other one rows on to another song.
         WaxInEars aboard = crewOn("019:s5s9", MAN, 1, 0, MAN, 1, 5);
         aboard.stroke();
@@ -621,6 +624,7 @@ public final class PromisesTest {
         check.begin("promise 16");
         due("new", STATE, new WaxInEars().listener());
         due("no men", STATE, on("001:.").listener());
+        due("alone", 0, crewOn("019:s9", MAN, 1, 0).listener());
         // With the oar of 3 bound the ship stays; with one of 2 bound it goes on and hears the rock.
         WaxInEars x = crewOn("059:s9r", MAN, 3, 0, MAN, 2, 0, MAN, 2, 0);
         due("the weaker oar", 1, x.listener());
@@ -803,6 +807,9 @@ public final class PromisesTest {
         due("over, from place 0", 20, x.voyages(20, 7, 0));
         due("over, all aboard", lostByDraws(20, 7, 2, 4), x.voyages(20, 7, 1));
         due("still over", THROUGH, x.count(7));
+        WaxInEars least = crewOn("019:s1", MAN, 1, 0);
+        due("a song of 1 is drawn, too", seedAfter(3, 20), least.voyages(20, 3, 2));
+        due("and heard as drawn", lostByDraws(20, 3, 1, 0), least.voyages(20, 3, 1));
         WaxInEars songless = crewOn("019:.r", MAN, 1, 0);
         due("no draws", 5, songless.voyages(3, 5, 2));
         due("through", 3, songless.voyages(3, 5, 0));
@@ -885,6 +892,15 @@ public final class PromisesTest {
         due("once more", 0, x.restore());
         due("the log once more", 1, x.count(8));
         due("men once more", 2, x.count(3));
+        WaxInEars told = crewOn("019:s5", MAN, 1, 0);
+        told.log(1);
+        told.image();
+        told.forget();
+        told.log(0);
+        due("another log fits", 1, told.fits());
+        due("who had wax by it", 1, told.sure(0));
+        told.restore();
+        due("what was told", 0, told.sure(0));
         WaxInEars over = crewOn("001:.", MAN, 1, 0);
         over.stroke();
         over.image();
@@ -921,6 +937,12 @@ public final class PromisesTest {
 
     private static void promise26() {
         check.begin("promise 26");
+        // Two pieces leave one to swim, three would leave none.
+        due("two pieces", digestOf(5, 0, MAN, 1, 0, 0, 0, 0, 1, 0, MAN, 1, 0, 0, 0, 0, 1, 0, MAN, 1, 0, 0, 0, 0, 1, 0,
+            3, 1, DRIFTING, 1, 3, 0, 5, 8, 1, 2, 9, 3, 0, 0, 0, 0, 0, 0, 1),
+            crewOn("029:s5", MAN, 1, 0, MAN, 1, 0, MAN, 1, 0).digest());
+        due("one man", digestOf(0, 0, MAN, 1, 0, 0, 0, 0, 1, 0, 0, 1, THROUGH, 0, 0, 0, 0, 2,
+            1, 1, 9, 1, 0, 0, 0, 0, 0, 0, 1), crewOn("019:.", MAN, 1, 0).digest());
         due("letters", digestOf('4', '~', 0, 0, 0, 0, 0, 0, 0, 0, 0, 2, 0), page("4~").digest());
         WaxInEars x = on("019:s5b7");
         due("no men", digestOf(5, 0, 7, 1, 2, 1, 9, 0, 0, 0, 0, 0, 0, 0, 1), x.digest());
