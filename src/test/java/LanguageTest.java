@@ -15,8 +15,9 @@ public final class LanguageTest {
         "int hold(int)", "int listener()", "int sold()", "int log(int)", "int forget()", "int fits()", "int sure(int)",
         "int voyages(int, int, int)", "int image()", "int restore()", "int count(int)", "long digest()");
     private static final List<String> NOT_THERE = List.of("\\bimport\\b", "\\bpackage\\b", "->", "::", "\\bcatch\\b",
-        "\\bthrow\\b", "\\bfinally\\b", "\\bsynchronized\\b", "\\bassert\\b", "static \\{", "\\bpublic static (?!final)",
-        "\\bprotected\\b", "\\bObject\\b", "\\bdouble\\b", "\\bfloat\\b", "\\w+Exact\\b", "\\bThread\\b", "\\bSystem\\.(?!arraycopy)");
+        "\\bthrow\\b", "\\bfinally\\b", "\\bsynchronized\\b", "\\bassert\\b", "static \\{",
+        "\\bpublic static (?!final)", "\\bprotected\\b", "\\bObject\\b", "\\bdouble\\b", "\\bfloat\\b",
+        "\\w+Exact\\b", "\\bThread\\b", "\\bSystem\\.(?!arraycopy)");
 
     public static void main(String[] args) throws IOException {
         Check check = new Check();
@@ -37,7 +38,8 @@ public final class LanguageTest {
         long made = Pattern.compile("\\bnew\\b").matcher(code).results().count();
         long fields = Pattern.compile("(?m)^ +private final [\\w\\[\\]]+ \\w+ = new ").matcher(code).results().count();
         check.due("objects made in fields", made, fields);
-        check.due("objects made elsewhere", 0, Pattern.compile("\\.clone\\(|\\.copyOf").matcher(code).results().count());
+        Matcher copies = Pattern.compile("\\.clone\\(|\\.copyOf").matcher(code);
+        check.due("objects made elsewhere", 0, copies.results().count());
     }
 
     private static void face(Check check) {
