@@ -724,20 +724,19 @@ public final class WaxInEars {
             return done;
         }
 
-        /** One stroke: who swam, as bits. */
+        /** One stroke: who swam, as bits. With nobody aboard it is over ahead of the rock and the oars. */
         int row(Passage passage, Crew crew) {
             int swimmers = swimmersAt(passage, crew);
             aboard &= ~swimmers;
-            if (isStriking(passage.rockAt(place), passage, crew)) {
+            if (aboard == 0) {
+                how = DRIFTING;
+            } else if (isStriking(passage.rockAt(place), passage, crew)) {
                 aboard = 0;
                 how = STRUCK;
             } else if (freeOars(crew) >= passage.need) {
                 comeOn(passage);
             }
             strokes++;
-            if (how == UNDER_WAY && aboard == 0) {
-                how = DRIFTING;
-            }
             return swimmers;
         }
 

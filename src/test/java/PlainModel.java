@@ -82,6 +82,11 @@ final class PlainModel {
                 }
             }
             swam.forEach(i -> men.get(i).lost = true);
+            if (lost() == men.size()) {
+                how = "DRIFTING";
+                stroke++;
+                return swam;
+            }
             char rock = places.get(place).charAt(0);
             boolean heard = men.stream().anyMatch(m -> !m.lost && hears(m));
             boolean seen = men.stream().anyMatch(m -> !m.lost && m.isSailor() && m.knots == 0);
@@ -97,9 +102,6 @@ final class PlainModel {
                 }
             }
             stroke++;
-            if (how.isEmpty() && lost() == men.size()) {
-                how = "DRIFTING";
-            }
             return swam;
         }
 

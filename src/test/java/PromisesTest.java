@@ -501,13 +501,35 @@ public final class PromisesTest {
         WaxInEars x = crewOn("019:s5.", MAN, 1, 0);
         due("all swim", NONE, x.stroke());
         counts("drifting", x, 2, 1, 9, 1, 1, 0, 1, DRIFTING);
-        // Promise 12 in the words of the terms, one behind the other: the rock, the oars (none
-        // are NEED 00, too), and what is left then of a ship with nobody aboard drifts.
-        due("all swim, a rock rings", STRUCK, ends(crewOn("019:b5", MAN, 1, 0)));
-        due("all swim, need 0, the last place", THROUGH, ends(crewOn("009:s5", MAN, 1, 0)));
-        WaxInEars y = crewOn("009:s5.", MAN, 1, 0);
-        due("all swim, need 0", NONE, y.stroke());
-        counts("drifting on", y, 2, 0, 9, 1, 1, 1, 1, DRIFTING);
+        // With nobody aboard the stroke comes neither to the rock nor, by NEED 00, to the next place.
+        allSwim("019:b5");
+        allSwim("009:b5");
+        allSwim("009:s5");
+        allSwim("009:s5.");
+        allSwim("009:s5r");
+        allSwim("459:s5e");
+        WaxInEars late = crewOn("001:.b5r", MAN, 1, 4, OLD, 1, 1);
+        due("all swim later: place 1", 1, late.stroke());
+        due("all swim later", NONE, late.stroke());
+        counts("drifting later", late, 3, 0, 1, 2, 2, 1, 2, DRIFTING);
+        WaxInEars oneStays = crewOn("009:b5", MAN, 1, 4, DEAF, 1, 0);
+        due("one stays aboard, the rock rings", NONE, oneStays.stroke());
+        due("he strikes", STRUCK, oneStays.count(7));
+        WaxInEars oneRows = crewOn("009:s5", MAN, 1, 4, DEAF, 1, 0);
+        due("one stays aboard, need 0", NONE, oneRows.stroke());
+        due("he is through", THROUGH, oneRows.count(7));
+    }
+
+    /** One of no will at a song in the first place swims, and it is over there. */
+    private static void allSwim(String text) {
+        WaxInEars x = crewOn(text, MAN, 1, 0);
+        outcome(x, 1, 1, DRIFTING);
+        due(text + ", all swim", NONE, x.stroke());
+        due(text + ", lost", 1, x.count(4));
+        due(text + ", the place", 0, x.count(5));
+        due(text + ", the stroke", 1, x.count(6));
+        due(text + ", drifting", DRIFTING, x.count(7));
+        due(text + ", over", STATE, x.stroke());
     }
 
     private static void outcome(WaxInEars x, int lost, int strokes, int how) {
@@ -589,6 +611,8 @@ public final class PromisesTest {
         WaxInEars aboard = crewOn("019:s5s9", MAN, 1, 0, MAN, 1, 5);
         aboard.stroke();
         waxing(aboard, 5, 1, 2);
+        // Who swims later, alone, is not through by NEED 00 at the last place: a piece is no help.
+        waxing(crewOn("001:s5rs5", MAN, 1, 0), 1, 1, 0);
     }
 
     private static void promise15() {
@@ -810,6 +834,10 @@ public final class PromisesTest {
         WaxInEars least = crewOn("019:s1", MAN, 1, 0);
         due("a song of 1 is drawn, too", seedAfter(3, 20), least.voyages(20, 3, 2));
         due("and heard as drawn", lostByDraws(20, 3, 1, 0), least.voyages(20, 3, 1));
+        // With nobody aboard no voyage is through, with NEED 00 either.
+        WaxInEars alone = crewOn("009:s1", MAN, 1, 0);
+        due("all swim", lostByDraws(20, 1, 1, 0), alone.voyages(20, 1, 1));
+        due("the others are through", 20 - lostByDraws(20, 1, 1, 0), alone.voyages(20, 1, 0));
         WaxInEars songless = crewOn("019:.r", MAN, 1, 0);
         due("no draws", 5, songless.voyages(3, 5, 2));
         due("through", 3, songless.voyages(3, 5, 0));
@@ -933,6 +961,15 @@ public final class PromisesTest {
         due("count(-1)", OUTSIDE, x.count(-1));
         due("count(min)", OUTSIDE, x.count(Integer.MIN_VALUE));
         due("new count(11)", OUTSIDE, new WaxInEars().count(11));
+        WaxInEars ends = crewOn("305:b9", MAN, 1, 0);
+        ends.stroke();
+        counts("all swim at a rock", ends, 1, 30, 5, 1, 1, 0, 1, DRIFTING, 0, 0, 1);
+        ends = crewOn("305:r", DEAF, 1, 0);
+        ends.stroke();
+        counts("struck", ends, 1, 30, 5, 1, 1, 0, 1, STRUCK, 0, 0, 1);
+        ends = crewOn("005:.", MAN, 1, 0);
+        ends.stroke();
+        counts("through", ends, 1, 0, 5, 1, 0, 0, 1, THROUGH, 0, 0, 1);
     }
 
     private static void promise26() {
@@ -964,5 +1001,11 @@ public final class PromisesTest {
             MAN, 1, 0, 0, 1, 1, 1, 2, MATE, 2, 7, 0, 0, 0, 1, 7,
             2, 'x',
             2, 1, 9, 2, 1, 1, 2, THROUGH, 1, 1, 1), x.digest());
+        WaxInEars alone = crewOn("009:b1", MAN, 1, 0);
+        due("all would swim", digestOf(1, 1, MAN, 1, 0, 0, 0, 0, 1, 0, 1, 1, DRIFTING, 1, 0, 0, 1, 2,
+            1, 0, 9, 1, 0, 0, 0, 0, 0, 0, 1), alone.digest());
+        alone.stroke();
+        due("all swam", digestOf(1, 1, MAN, 1, 0, 0, 0, 1, 1, 0, 2,
+            1, 0, 9, 1, 1, 0, 1, DRIFTING, 0, 0, 1), alone.digest());
     }
 }
