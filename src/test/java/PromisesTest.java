@@ -1,11 +1,5 @@
 /** For each promise of the document: ordinary inputs, the edges that it names, wrong inputs. */
-public final class PromisesTest {
-    private static final int NONE = -1, UNKNOWN = -101, OUTSIDE = -102, STATE = -103, FULL = -104;
-    private static final int MAN = 0, DEAF = 1, OLD = 2, SAILOR = 3, MATE = 4;
-    private static final int THROUGH = 1, STRUCK = 2, DRIFTING = 3;
-
-    private static final Check check = new Check();
-
+public final class PromisesTest extends Given {
     public static void main(String[] args) {
         constants();
         promise1();
@@ -38,50 +32,6 @@ public final class PromisesTest {
         promise25();
         promise26();
         check.end();
-    }
-
-    private static void due(String call, long want, long got) {
-        check.due(call, want, got);
-    }
-
-    private static WaxInEars typed(WaxInEars x, String text) {
-        for (int i = 0; i < text.length(); i++) {
-            x.letter(text.charAt(i));
-        }
-        return x;
-    }
-
-    private static WaxInEars page(String text) {
-        return typed(new WaxInEars(), text);
-    }
-
-    private static WaxInEars on(String text) {
-        WaxInEars x = page(text);
-        x.passage();
-        return x;
-    }
-
-    /** A passage and men, three numbers each: kind, oar, will. */
-    private static WaxInEars crewOn(String text, int... men) {
-        WaxInEars x = on(text);
-        for (int i = 0; i + 2 < men.length; i += 3) {
-            x.man(men[i], men[i + 1], men[i + 2]);
-        }
-        return x;
-    }
-
-    private static void counts(String when, WaxInEars x, int... want) {
-        for (int what = 0; what < want.length; what++) {
-            due(when + " count(" + what + ")", want[what], x.count(what));
-        }
-    }
-
-    private static long digestOf(long... numbers) {
-        long h = 757;
-        for (long number : numbers) {
-            h = 31 * h + number;
-        }
-        return h;
     }
 
     private static void constants() {
@@ -532,12 +482,6 @@ public final class PromisesTest {
         due(text + ", over", STATE, x.stroke());
     }
 
-    private static void outcome(WaxInEars x, int lost, int strokes, int how) {
-        due("outcome(0)", lost, x.outcome(0));
-        due("outcome(1)", strokes, x.outcome(1));
-        due("outcome(2)", how, x.outcome(2));
-    }
-
     private static void promise13() {
         check.begin("promise 13");
         due("new", STATE, new WaxInEars().outcome(0));
@@ -560,11 +504,6 @@ public final class PromisesTest {
         outcome(crewOn("029:.", MAN, 1, 9), 0, 30, 0);
         outcome(crewOn("019:r", DEAF, 1, 9), 1, 1, STRUCK);
         outcome(crewOn("019:.s5", MAN, 1, 4), 1, 2, DRIFTING);
-    }
-
-    private static void waxing(WaxInEars x, int pieces, int lost, int set) {
-        due("waxing(" + pieces + ", 0)", lost, x.waxing(pieces, 0));
-        due("waxing(" + pieces + ", 1)", set, x.waxing(pieces, 1));
     }
 
     private static void promise14() {
@@ -796,15 +735,6 @@ public final class PromisesTest {
         x.log(0);
         x.stroke();
         due("a lost one had", 1, x.sure(0));
-    }
-
-    private static int seedAfter(int seed, int draws) {
-        java.math.BigInteger next = java.math.BigInteger.valueOf(seed);
-        for (int draw = 0; draw < draws; draw++) {
-            next = next.multiply(java.math.BigInteger.valueOf(1103515245)).add(java.math.BigInteger.valueOf(12345))
-                .mod(java.math.BigInteger.TWO.pow(31));
-        }
-        return next.intValueExact();
     }
 
     private static void promise22() {
