@@ -30,6 +30,7 @@ public final class LanguageTest {
         }
         madeInFieldsAlone(check, code);
         face(check);
+        classesInside(check);
         check.end();
     }
 
@@ -61,5 +62,35 @@ public final class LanguageTest {
         check.due("methods of the face", FACE.size(), methods);
         check.due("public fields", 5, WaxInEars.class.getFields().length);
         check.due("constructors", 1, WaxInEars.class.getConstructors().length);
+    }
+    /** Rules 1, 2 and 11: static and not public, no name of the face, few parameters, fields and classes. */
+    private static void classesInside(Check check) {
+        Class<?>[] classes = WaxInEars.class.getDeclaredClasses();
+        check.due("at most twelve classes", 1, classes.length < 12 ? 1 : 0);
+        smallEnough(check, WaxInEars.class);
+        for (Class<?> inside : classes) {
+            int is = inside.getModifiers();
+            check.due(inside + " is static", 1, java.lang.reflect.Modifier.isStatic(is) ? 1 : 0);
+            check.due(inside + " is public", 0, java.lang.reflect.Modifier.isPublic(is) ? 1 : 0);
+            smallEnough(check, inside);
+            for (java.lang.reflect.Method method : inside.getDeclaredMethods()) {
+                boolean isInFace = FACE.stream().anyMatch(line -> line.matches("\\w+ " + method.getName() + "\\(.*"));
+                check.due(inside + ", " + method.getName() + " has a name of the face", 0, isInFace ? 1 : 0);
+            }
+        }
+    }
+
+    private static void smallEnough(Check check, Class<?> one) {
+        long fields = java.util.Arrays.stream(one.getDeclaredFields())
+            .filter(field -> !java.lang.reflect.Modifier.isStatic(field.getModifiers())).count();
+        check.due(one + " has at most twenty fields", 1, fields <= 20 ? 1 : 0);
+        for (java.lang.reflect.Field field : one.getDeclaredFields()) {
+            boolean isStatic = java.lang.reflect.Modifier.isStatic(field.getModifiers());
+            boolean isFinal = java.lang.reflect.Modifier.isFinal(field.getModifiers());
+            check.due(one + ", " + field.getName() + " is static and not final", 0, isStatic && !isFinal ? 1 : 0);
+        }
+        for (java.lang.reflect.Method method : one.getDeclaredMethods()) {
+            check.due(method + " has at most seven parameters", 1, method.getParameterCount() <= 7 ? 1 : 0);
+        }
     }
 }
